@@ -1032,7 +1032,8 @@ public final class FourOnOne {
                         machine.facts[W_HOUR] = account.time % DAY_HOURS;
                         machine.facts[W_TASTE] = account.taste[at];
                         machine.facts[W_WEIGHT] = growth;
-                        growth = machine.value(house.steps, house.learns);
+                        // Held for itself: what is below 0 is nothing, it takes nothing from the taste.
+                        growth = heldTaste(machine.value(house.steps, house.learns));
                     }
                     account.taste[at] = heldTaste(account.taste[at] + growth);
                 }

@@ -7,6 +7,7 @@ public final class ActsTest {
         hour();
         screens();
         learning();
+        learningNothing();
         fading();
         keeping();
         rings();
@@ -73,12 +74,41 @@ public final class ActsTest {
         due.is("5", y.taste(-1, 0), 5);
         due.is("a kind that the film is not of", y.taste(-1, 1), 0);
         y.hours(1);
-        due.is("below is nothing", y.taste(-1, 0), 0);
+        due.is("below is nothing: 5 - 10", y.taste(-1, 0), 5);
+        due.is("two parts are seen", y.seen(-1, 0), 2);
         FourOnOne z = Due.housed("kind k;film f parts 9 is k 7;person p at 0 to 23;");
         z.hours(2);
         due.is("by how much it is without", z.taste(-1, 0), 14);
         z.hours(3);
         due.is("no fading without", z.taste(-1, 0), 35);
+    }
+
+    /** A sum of learns below 0 is nothing, wherever a part is seen: no taste becomes less by it. */
+    private static void learningNothing() {
+        String house = "kind k;kind l;film f parts 9 is k 9 l 1;film g parts 9 is l 8;person p at 0 to 23;";
+        FourOnOne x = Due.housed(house + "learns weight-5;");
+        x.show(0, 1);
+        due.is("g: 8 - 5", x.taste(-1, 1), 3);
+        x.show(0, 0);
+        due.is("f, kind by kind: 9 - 5", x.taste(-1, 0), 4);
+        due.is("1 - 5 is nothing", x.taste(-1, 1), 3);
+        FourOnOne y = Due.housed(house + "press p;learns 5-taste*2;");
+        y.show(0, 0);
+        due.is("by his own", y.taste(0, 0) * 10 + y.taste(0, 1), 55);
+        y.show(0, 0);
+        due.is("show", y.taste(0, 0) * 10 + y.taste(0, 1), 55);
+        y.hours(3);
+        due.is("hours", y.taste(0, 0) * 10 + y.taste(0, 1), 55);
+        due.is("not the account's", y.taste(-1, 0) + y.taste(-1, 1), 0);
+        FourOnOne z = Due.housed("kind k;film f parts 9 is k 1;learns 5-taste*2;strange 100;");
+        due.is("strangers", z.chance(4), 4);
+        due.is("chance", z.taste(-1, 0), 5);
+        FourOnOne w = Due.housed("kind k;film f parts 9 is k 1;person p at 0 to 23;learns 0-9999*9999;fades taste+7;");
+        w.hours(3);
+        due.is("far below; fades goes on", w.taste(-1, 0), 21);
+        FourOnOne v = Due.housed("kind k;film f parts 9 is k 1;person p at 0 to 23;learns 9999*9999;");
+        v.hours(1);
+        due.is("far above", v.taste(-1, 0), 999);
     }
 
     private static void fading() {

@@ -12,6 +12,7 @@ public final class AheadTest {
         rest();
         gone();
         sow();
+        learningNothing();
         last();
         due.end();
     }
@@ -171,6 +172,31 @@ public final class AheadTest {
         // All that he has is below 0.
         FourOnOne w = Due.housed("kind a;film x parts 2 is a 1;film y parts 1 is a 1;person p at 0 to 23;press p;bother 5;");
         due.is("below 0, the most", w.sow(0, 3), 0);
+    }
+
+    /** Ahead, too, a sum of learns below 0 is nothing. */
+    private static void learningNothing() {
+        String house = "kind a;kind b;film f parts 9 is a 1;film g parts 9 is b 1;person p at 0 to 23;likes p b 5;"
+            + "learns 5-taste*2;bother 1;";
+        FourOnOne x = Due.housed(house);
+        x.show(0, 1);
+        due.is("never gone: it stays 5", x.gone(0, 1), -1);
+        // If its taste went to 0 in the first hour, f would come in the second.
+        due.is("pleased by g and g", x.pleased(0, 2), 10);
+        due.is("eight of g, then f", x.pleased(0, 72), 40);
+        due.is("pressing: f and f, less bother", x.pressing(0, 2), -2 - 10);
+        Due.tell(x, 1, 1, 1);
+        due.is("g in the second hour: he does not press", x.pressed(0) * 10 + x.pressed(2), 10);
+        due.is("no hour went by", x.has(5) + x.has(10), 1);
+        FourOnOne y = Due.housed(house);
+        // Behind g come two more of g, behind f two more of f.
+        due.is("sown", y.sow(0, 2), 1);
+        FourOnOne z = Due.housed("kind a;kind b;film f parts 9 is a 1;film g parts 2 is b 1;film h parts 2 is b 1;"
+            + "person p at 0 to 23;likes p b 5;likes p a 1;learns 5-taste*2;");
+        // Behind f: f, f. Behind g: g, h. Behind h: g, g.
+        due.is("of like ones the first", z.sow(0, 2), 1);
+        z.show(0, 2);
+        due.is("g, g, h, then f", z.pleased(0, 4), 5 + 5 + 5 + 1);
     }
 
     private static void last() {

@@ -674,7 +674,8 @@ final class Model {
             int kind = row.getKey();
             Map<String, Integer> facts = Map.of("hour", s.hour, "taste", before[kind], "weight", row.getValue());
             long more = house.formulas.containsKey("learns") ? house.formulas.get("learns").of(facts) : row.getValue();
-            profile.taste[kind] = tasted(before[kind] + more);
+            // Below is nothing: what it grows by, not what it becomes.
+            profile.taste[kind] = tasted(before[kind] + tasted(more));
         }
         s.kept.add(new Kept(s.day, s.hour, who, film));
     }
