@@ -188,9 +188,10 @@ public final class AheadTest {
         Due.tell(x, 1, 1, 1);
         due.is("g in the second hour: he does not press", x.pressed(0) * 10 + x.pressed(2), 10);
         due.is("no hour went by", x.has(5) + x.has(10), 1);
-        FourOnOne y = Due.housed(house);
-        // Behind g come two more of g, behind f two more of f.
-        due.is("sown", y.sow(0, 2), 1);
+        // Behind f come f, f, f, since its taste stays; if it went to 0, g would come, and h, h, h would be more than f alone.
+        FourOnOne y = Due.housed("kind a;kind b;kind c;film g parts 9 is b 1;film f parts 9 is a 1;film h parts 9 is c 2;"
+            + "person p at 0 to 23;likes p a 5;likes p c 1;learns weight*10-taste*2+weight/2*9000;");
+        due.is("sown", y.sow(0, 3), 1);
         FourOnOne z = Due.housed("kind a;kind b;film f parts 9 is a 1;film g parts 2 is b 1;film h parts 2 is b 1;"
             + "person p at 0 to 23;likes p b 5;likes p a 1;learns 5-taste*2;");
         // Behind f: f, f. Behind g: g, h. Behind h: g, g.
