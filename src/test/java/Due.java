@@ -1,6 +1,8 @@
 /** Compares answers with those that are due, and feeds texts to a tape. */
 final class Due {
     private final String name;
+    private String sentence = "";
+    private int sentences = 0;
     private int asked = 0;
     private int wrong = 0;
 
@@ -8,12 +10,24 @@ final class Due {
         this.name = name;
     }
 
+    /** The sentence of the document by which the next answers are due. */
+    void by(String words) {
+        sentence = " by \"" + words + "\"";
+        sentences++;
+    }
+
     void is(String call, long got, long want) {
         asked++;
         if (got != want) {
             wrong++;
-            System.out.println(name + ": " + call + " answered " + got + ", due is " + want);
+            System.out.println(name + ": " + call + " answered " + got + ", due is " + want + sentence);
         }
+    }
+
+    /** That all which the object tells is as it was. */
+    void stays(String call, FourOnOne x, String before) {
+        String after = Whole.of(x);
+        is(call + " changed " + before + " to " + after, before.equals(after), true);
     }
 
     void is(String call, boolean got, boolean want) {
@@ -21,7 +35,8 @@ final class Due {
     }
 
     void end() {
-        System.out.println(name + ": " + asked + " answers, " + wrong + " wrong");
+        String told = sentences == 0 ? "" : " by " + sentences + " sentences";
+        System.out.println(name + ": " + asked + " answers" + told + ", " + wrong + " wrong");
         if (wrong != 0 || asked == 0) {
             System.exit(1);
         }

@@ -145,6 +145,7 @@ public final class FaceTest {
         long calls = made() - before;
         due.is("10 of each call make " + calls + " bytes", calls < 20000, true);
         int houses = 0;
+        x = new FourOnOne();
         before = made();
         for (int k = 0; k < 60; k++) {
             x.feed(0x6b696e64, 0x20613b6b, 0x696e6420, 0x623b6d61, 0x7920616c);

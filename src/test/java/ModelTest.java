@@ -55,14 +55,14 @@ public final class ModelTest {
 
     private void run() {
         boolean wild = random.nextInt(4) == 0;
-        while (goesOn(wild ? 480 : 400)) {
+        while (goesOn(wild ? 440 : 400)) {
             String text = house();
             feed(wild || random.nextInt(5) == 0 ? spoilt(text) : text);
             int statements = x.house();
             same("house " + text, statements, y.house());
             faultless += statements >= 0 ? 1 : 0;
             fault();
-            int most = Math.min(480, calls.size() + (wild ? 20 : 60 + random.nextInt(300)));
+            int most = Math.min(440, calls.size() + (wild ? 20 : 60 + random.nextInt(300)));
             while (goesOn(most)) {
                 call();
             }
