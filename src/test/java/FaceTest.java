@@ -19,6 +19,10 @@ import java.util.regex.Pattern;
 public final class FaceTest {
     private static final Due due = new Due("FaceTest");
 
+    private static final Set<Class<?>> CONSTANTS =
+        Set.of(int.class, long.class, boolean.class, char.class, String.class, int[].class, long[].class, char[].class,
+            byte[].class);
+
     private static final String[] FACE = {
         "int feed(int,int,int,int,int)", "boolean end(int)", "int house()", "int fault(int)", "int has(int)",
         "int letter(int,int,int)", "int film(int,int)", "int person(int,int)", "int taste(int,int)", "int seen(int,int)",
@@ -64,23 +68,39 @@ public final class FaceTest {
         for (Class<?> inside : it.getDeclaredClasses()) {
             due.is("static: " + inside, Modifier.isStatic(inside.getModifiers()), true);
             due.is("not public: " + inside, inside.getModifiers() & (Modifier.PUBLIC | Modifier.PROTECTED), 0);
-            int fields = 0;
-            for (Field field : inside.getDeclaredFields()) {
-                fields += Modifier.isStatic(field.getModifiers()) ? 0 : 1;
-                due.is("static and not final: " + field,
-                    Modifier.isStatic(field.getModifiers()) && !Modifier.isFinal(field.getModifiers()), false);
-            }
-            due.is("fields of " + inside + ": " + fields, fields <= 20, true);
             for (Method method : inside.getDeclaredMethods()) {
                 due.is("a name of the face: " + method, names.contains(method.getName()), false);
             }
         }
         due.is("classes", it.getDeclaredClasses().length <= 11, true);
+        fields(it);
+        for (Class<?> inside : it.getDeclaredClasses()) {
+            fields(inside);
+        }
         for (Method method : it.getDeclaredMethods()) {
             due.is("a name of the face: " + method,
                 Modifier.isPrivate(method.getModifiers()) && names.contains(method.getName()), false);
             due.is("parameters: " + method, method.getParameterCount() <= 7, true);
         }
+    }
+
+    /** Rules 3, 5 and 11: what fields may be, static ones, and how many of the others. */
+    private static void fields(Class<?> it) {
+        int own = 0;
+        for (Field field : it.getDeclaredFields()) {
+            Class<?> type = field.getType();
+            if (Modifier.isStatic(field.getModifiers())) {
+                due.is("final: " + field, Modifier.isFinal(field.getModifiers()), true);
+                due.is("a constant's type: " + field, CONSTANTS.contains(type), true);
+                continue;
+            }
+            own++;
+            Class<?> row = type.isArray() ? type.getComponentType() : type;
+            Class<?> one = row.isArray() ? row.getComponentType() : row;
+            boolean ours = one == FourOnOne.class || one.getDeclaringClass() == FourOnOne.class;
+            due.is("a field's type: " + field, one.isPrimitive() || (ours || type == String.class) && !row.isArray(), true);
+        }
+        due.is("fields of " + it + ": " + own, own <= 20, true);
     }
 
     private static void source(Path path) throws Exception {
